@@ -1081,6 +1081,46 @@ public final class PromisesTest {
         KIT.given("34 letters", x, x.echo(1, 0), 34);
     }
 
+    /** All there can be, and what stands just behind the bounds. */
+    private static void bounds() {
+        OddCancel x = of("strike a;strike b;hand g;hand h;hand i;hand j;person k hand g;person l hand h;person m hand i;person n hand j;"
+            + "person o hand g;person p hand h;" + "law a under 5;".repeat(7) + "law b;" + "letter k l weight 3;letter o p weight 9;".repeat(6));
+        KIT.given("via by six", x, x.via(0, 5, 3, 0), 1);
+        KIT.given("viaFirst by six", x, x.viaFirst(0, 5, 3, 0), 5);
+        KIT.refused("not by six", x, x.via(0, 5, 3, 1), 6);
+        KIT.given("game of twelve", x, x.game(3), 1);
+        KIT.given("the first of twelve", x, x.gameFirst(3), 0);
+        KIT.given("the last of eight laws", x, x.brother(11), 1);
+        KIT.given("all but the first and the last", x, x.idle(), 126);
+        KIT.given("take of twelve", x, x.take(0), 11);
+        KIT.due("the last one", x.letter(10, 2), 9);
+        row(x, 0, 0, 0, 1, 0);
+        KIT.given("spells", x, x.spells(0, 3), 1);
+        KIT.given("a day of eleven", x, x.day(1), 11);
+        OddCancel y = of("strike s;strike t;hand h;person p hand h;person q hand h;law s by h;law t;");
+        KIT.given("no hand is left for t", y, y.idle(), 2);
+        row(y, 0, 0, 0, 1);
+        KIT.given("what stands behind the row is not spelled", y, y.spells(0, 1), 1);
+        KIT.given("t is not", y, y.spells(0, 2), 0);
+        row(y, 1, 0, 98, 0, 99, 0, 97, 0);
+        KIT.given("two are enough", y, y.splitNext(1, 1, 0, 1), 99);
+        KIT.due("99 and 100", y.split(1, 1, 0, 1), 2);
+        KIT.refused("one is not", y, y.splitNext(1, 2, 0, 1), 6);
+        String[] cuts = {"strike a|    ", "strike a|bcd;", "strike a worth 1|2;"};
+        for (String cut : cuts) {
+            Kit.feed(y, cut.replace("|", ""));
+            KIT.refused("cut", y, y.valley(cut.indexOf('|')), 9);
+            KIT.due("at the end " + cut, y.fault(0) * 100 + y.fault(1), 200 + cut.indexOf('|'));
+        }
+        OddCancel z = base();
+        Kit.weeks(z, "day 1;");
+        z.mean(0, 1);
+        Kit.valley(z, TWO + "letter p q weight 50;");
+        KIT.due("no covers", z.told(5) * 100 + z.told(9) * 10 + z.told(10), 0);
+        Kit.valley(z, "strike s;hand h;person p hand h;person q hand h;law s under 10;letter p q weight 50;");
+        KIT.refused("no law of the one ahead", z, z.brother(0), 6);
+    }
+
     private static void livesAgain() {
         OddCancel x = of(TWO + "letter p q weight 5;");
         Kit.weeks(x, "loop 99;loop 9;any;drink;drink;end;end;");
@@ -1103,6 +1143,7 @@ public final class PromisesTest {
         fresh();
         largestRing();
         livesAgain();
+        bounds();
         p1to4();
         p5to7();
         p8();
