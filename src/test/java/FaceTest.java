@@ -101,7 +101,7 @@ public final class FaceTest {
         methods(bare);
     }
 
-    /** All is made where fields are, or in the constructor (8 blanks and deeper is there alone). */
+    /** All is made where final fields are, or in the constructor, which stands ahead of status(). */
     private static int makesInCalls(String code) {
         int at = code.indexOf("public int status()");
         int many = 0;
