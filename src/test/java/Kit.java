@@ -67,6 +67,14 @@ final class Kit {
         due(what + " status", x.status(), 0);
     }
 
+    int asked() {
+        return asked;
+    }
+
+    int wrong() {
+        return wrong;
+    }
+
     void end(String name) {
         System.out.println(name + ": " + asked + " asked, " + wrong + " wrong");
         if (wrong != 0 || asked == 0) {
