@@ -767,7 +767,7 @@ public final class OddCancel {
     }
 
     private void setFraction(long top, long bottom) {
-        long divisor = commonDivisor(top, bottom);
+        long divisor = Math.max(1L, commonDivisor(top, bottom));
         fractionTop = top / divisor;
         fractionBottom = bottom / divisor;
     }

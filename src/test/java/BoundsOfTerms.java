@@ -161,8 +161,17 @@ final class BoundsOfTerms {
             Bounds.KIT.due("1 alone", x.weights(0, 1, 0, 0) * 100 + x.weightAt(0, 1, 0, 0, 1), 101);
             x = Bounds.of(Bounds.PAIR + "law s over 98;");
             Bounds.KIT.due("99 alone", x.weights(0, 1, 0, 0) * 100 + x.weightAt(0, 1, 0, 0, 0), 199);
-            x = Bounds.of(Bounds.PAIR + "law s under 1;");
-            Bounds.KIT.given("none", x, x.weights(0, 1, 0, 0), 0);
+            for (String law : new String[] {"law s under 1;", "law s over 99;"}) {
+                x = Bounds.of(Bounds.PAIR + law);
+                Bounds.KIT.given("none by " + law, x, x.weights(0, 1, 0, 0), 0);
+                Bounds.KIT.refused("no least by " + law, x, x.weightAt(0, 1, 0, 0, 0), 6);
+                Bounds.KIT.refused("no greatest by " + law, x, x.weightAt(0, 1, 0, 0, 1), 6);
+                Bounds.KIT.given("no strike by " + law, x, x.could(0, 1, 0), 0);
+                Bounds.KIT.given("idle: " + law, x, x.idle(), 1);
+                x.tray(0, 0, 1);
+                Bounds.KIT.given("not spelled by " + law, x, x.spells(0, 1), 0);
+                Bounds.KIT.refused("not wrapped by " + law, x, x.wrap(0, 1, 99, 0, 0), 6);
+            }
         });
         says(3, "the part of all STRIKES he would give a LETTER, DRUNK by ODDS sixteenths, that are a told one", () -> {
             int[] tops = {0, 1, 1, 3, 1, 5, 3, 7, 1, 9, 5, 11, 3, 13, 7, 15, 1};
@@ -466,6 +475,7 @@ final class BoundsOfTerms {
             Bounds.KIT.given("its weeks", x, x.live(0), 1);
             Bounds.KIT.refused("none", x, x.undo(), 6);
             Bounds.KIT.given("nothing is taken back", x, x.told(7), 1);
+            coversAreTakenBack();
         });
         says(4, "FRACTIONS are told by top() and bottom() without a common divisor, the bottom above 0; 0 is 0 by 1.", () -> {
             OddCancel x = Bounds.of(Bounds.TWO + "odds 12;");
@@ -555,6 +565,24 @@ final class BoundsOfTerms {
             }
         });
         says(5, "The constants: `NONE = -1`: None.", () -> Bounds.KIT.due("NONE", OddCancel.NONE, -1));
+    }
+
+    private static void coversAreTakenBack() {
+        OddCancel x = Bounds.of(Bounds.PEOPLE + "law ok under 10 by rnd;law nie by rnd;law dud under 50;letter ann bob weight 5;letter bob cy weight 20;letter cy ann weight 60;");
+        x.day(1);
+        x.mark();
+        x.post(2, 1, 99, 1);
+        x.post(0, 1, 11, 1);
+        x.post(1, 0, 3, 0);
+        x.day(1);
+        x.undo();
+        int[][] due = {{2, 0, 60, 0, 2}, {0, 1, 5, 0, 0}, {1, 2, 20, 1, 1}};
+        for (int k = 0; k < 3; k++) {
+            for (int what = 0; what < 5; what++) {
+                Bounds.KIT.given("cover " + k + " " + what + " is back", x, x.cover(k, what), due[k][what]);
+            }
+        }
+        Bounds.KIT.due("counts are back", x.told(9) * 1000 + x.told(10) * 100 + x.told(11), 3009);
     }
 
     /** Every call that has a STATUS, once as it can be, behind one that was refused. */

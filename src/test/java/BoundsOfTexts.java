@@ -575,6 +575,9 @@ final class BoundsOfTexts {
             Kit.weeks(x, "");
             x.undo();
             Bounds.KIT.given("all thirty again", x, x.live(0), 31);
+            x = Bounds.living(Bounds.PEOPLE, "loop1;end;".repeat(28) + "post bob cy 9;");
+            x.live(0);
+            Bounds.KIT.due("a post behind 28 loops", x.letter(0, 0) * 100 + x.letter(0, 1) * 10 + x.letter(0, 2), 129);
             Bounds.weeksFault(6, "loop1;" + "any;".repeat(29) + "|any;end;");
             Bounds.fineWeeks("loop1;" + "any;".repeat(29) + "end;", 30);
             Bounds.weeksFault(6, "loop1;".repeat(3) + "any;".repeat(27) + "|loop1;");
