@@ -898,7 +898,7 @@ public final class OddCancel {
         }
 
         void add(int newFrom, int newTo, int newWeight, int newHand, int newStrike) {
-            if (isFull()) {
+            if (many >= LETTERS_MOST) {
                 return;
             }
             from[many] = newFrom;
@@ -1062,13 +1062,12 @@ public final class OddCancel {
             int at = law * LAW_FIELDS;
             int under = lawRow[at + 1];
             int over = lawRow[at + 2];
+            int writtenBy = lawRow[at + 3];
+            int sender = lawRow[at + 4];
+            int receiver = lawRow[at + 5];
             return (under == NONE || weight < under) && (over == NONE || weight > over)
-                && isMet(lawRow[at + 3], hand) && isMet(lawRow[at + 4], from)
-                && isMet(lawRow[at + 5], to);
-        }
-
-        private static boolean isMet(int asked, int is) {
-            return asked == NONE || asked == is;
+                && (writtenBy == NONE || writtenBy == hand) && (sender == NONE || sender == from)
+                && (receiver == NONE || receiver == to);
         }
 
         int firstFit(int from, int to, int weight, int hand) {
@@ -1294,9 +1293,9 @@ public final class OddCancel {
             keyword = NONE;
             if (at >= length) {
                 token = TOKEN_END;
-            } else if (isSmall(tape[at])) {
+            } else if (tape[at] >= 'a' && tape[at] <= 'z') {
                 readWord();
-            } else if (isDigit(tape[at])) {
+            } else if (tape[at] >= '0' && tape[at] <= '9') {
                 readNumber();
             } else if (isSign(tape[at])) {
                 token = TOKEN_SIGN;
@@ -1307,14 +1306,6 @@ public final class OddCancel {
             }
         }
 
-        private static boolean isSmall(int c) {
-            return c >= 'a' && c <= 'z';
-        }
-
-        private static boolean isDigit(int c) {
-            return c >= '0' && c <= '9';
-        }
-
         private static boolean isSign(int c) {
             return c == ';' || c == '<' || c == '>' || c == '=';
         }
@@ -1322,7 +1313,7 @@ public final class OddCancel {
         private void readWord() {
             token = TOKEN_WORD;
             word = 0;
-            while (at < length && isSmall(tape[at])) {
+            while (at < length && tape[at] >= 'a' && tape[at] <= 'z') {
                 word = at - place < NAME_LENGTH ? word * 32 + (tape[at] - 96) : NONE;
                 at++;
             }
@@ -1345,7 +1336,7 @@ public final class OddCancel {
         private void readNumber() {
             token = TOKEN_NUMBER;
             number = 0;
-            while (at < length && isDigit(tape[at])) {
+            while (at < length && tape[at] >= '0' && tape[at] <= '9') {
                 if (at - place < 4) {
                     number = number * 10 + (tape[at] - '0');
                 } else {
@@ -1634,7 +1625,9 @@ public final class OddCancel {
             depth = 0;
             boolean fine = true;
             for (int k = 0; k <= WEEKS_LENGTH && fine && reader.token != TOKEN_END; k++) {
-                fine = reader.keyword == WORD_END ? takeEnd() : takeStep();
+                int word = reader.keyword;
+                fine = word == WORD_END ? takeEnd()
+                    : beginStep(word) && takeRest(word) && reader.wantClose();
             }
             if (fine && depth > 0) {
                 fine = reader.fail(FAULT_STAND);
@@ -1659,8 +1652,7 @@ public final class OddCancel {
                 || word == WORD_LOOP || word == WORD_STOP;
         }
 
-        private boolean takeStep() {
-            int word = reader.keyword;
+        private boolean beginStep(int word) {
             boolean opens = word == WORD_WHEN || word == WORD_LOOP;
             if (!begins(word)) {
                 return reader.fail(FAULT_STAND);
@@ -1677,7 +1669,7 @@ public final class OddCancel {
             }
             draft.steps++;
             reader.next();
-            return takeRest(word) && reader.wantClose();
+            return true;
         }
 
         private boolean takeRest(int word) {
